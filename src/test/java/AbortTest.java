@@ -11,6 +11,8 @@ public final class AbortTest {
         coverOnTheWay();
         dangerOnTheWay();
         beyondTheEnd();
+        edgesOfTheSet();
+        lastTenthToRun();
         aborts();
         refusals();
         due.end("AbortTest");
@@ -203,6 +205,74 @@ public final class AbortTest {
         x.safe(5, false);
         x.safe(6, true);
         due.is("six strides", x.saved(0, 600), -9);
+    }
+
+    /** No way leads off the set and back, and a car in the last row and column is a danger there. */
+    private static void edgesOfTheSet() {
+        int[] corners = {0, 19, 380, 399};
+        int[][] walls = {{1, 20, 21}, {18, 38, 39}, {360, 361, 381}, {378, 379, 398}};
+        for (int i = 0; i < 4; i++) {
+            StuntSet x = new StuntSet();
+            x.mover(1, 0, corners[i], 600, 0);
+            x.mover(0, 0, corners[i], 0, 0);
+            x.mover(0, 0, 210, 0, 0);
+            x.cue(1, 0, 0);
+            due.is("danger by mover 0", x.danger(1, corners[i], 0), 1);
+            due.is("in danger in the corner", x.saved(1, 0), -9);
+            x.safe(corners[i], true);
+            due.is("nor is it safe for another", x.saved(2, 0), -9);
+            StuntSet y = new StuntSet();
+            y.mover(0, 0, corners[i], 0, 0);
+            y.stride(1);
+            for (int cell = 0; cell < 400; cell++) {
+                y.safe(cell, cell != corners[i]);
+            }
+            due.is("out of the corner", y.saved(0, 0), 1);
+            for (int wall : walls[i]) {
+                y.cover(wall, true);
+            }
+            due.is("shut in", y.saved(0, 0), -9);
+            y.mover(0, 0, 210, 0, 0);
+            y.safe(210, false);
+            due.is("the other runs", y.abort(0), 1);
+        }
+        StuntSet z = new StuntSet();
+        z.mover(0, 0, 390, 0, 0);
+        z.stride(1);
+        z.safe(399, true);
+        due.is("along the last row", z.saved(0, 0), 9);
+        for (int cell = 360; cell < 380; cell++) {
+            z.cover(cell, true);
+        }
+        due.is("along the last row alone", z.saved(0, 0), 9);
+        z.safe(399, false);
+        z.safe(350, true);
+        z.cover(370, false);
+        due.is("up from the last row", z.saved(0, 0), 2);
+    }
+
+    /** The only way out is a cell in which a car stands until it goes. */
+    private static void lastTenthToRun() {
+        StuntSet x = new StuntSet();
+        x.mover(0, 0, 0, 0, 0);
+        x.cover(20, true);
+        x.cover(21, true);
+        x.safe(1, true);
+        x.stride(1);
+        x.mover(1, 0, 1, 99, 0);
+        x.leg(1, 0, 1, 1, 0);
+        due.is("the car goes at 100", x.saved(0, 0), 100);
+        x.cue(1, 100, 0);
+        due.is("the car goes at 101", x.saved(0, 0), -9);
+        due.is("from 1 on", x.saved(0, 1), 101);
+        x.cue(1, 98, 1);
+        due.is("the car goes at 99, late at 100", x.saved(0, 0), 100);
+        x.cue(1, 599, 0);
+        due.is("the car goes at 600", x.saved(0, 590), 600);
+        x.cue(1, 599, 1);
+        due.is("late it would go at 601, which is as 600", x.saved(0, 590), -9);
+        x.cue(1, 600, 0);
+        due.is("it does not go any more", x.saved(0, 600), -9);
     }
 
     private static void aborts() {

@@ -9,6 +9,7 @@ public final class CameraTest {
         wides();
         directions();
         coverHides();
+        everyCellBetween();
         quarrels();
         pictures();
         due.end("CameraTest");
@@ -54,6 +55,9 @@ public final class CameraTest {
         due.is("camera 8", x.camera(0, 0, 0, 1, 0, 0), -6);
         due.is("camera 8, below", x.camera(0, 0, 0, 0, 0, 0), -4);
         due.is("count(1)", x.count(1), 8);
+        due.is("sees(7, 8)", x.sees(7, 8), 1);
+        due.is("sees(8, 9)", x.sees(8, 9), -1);
+        due.is("picture(8, 0)", x.picture(8, 0), -1);
         due.is("quarrels(0)", x.quarrels(0), 7);
         due.is("quarrels(1)", x.quarrels(1), 0);
         due.is("quarrels(2)", x.quarrels(2), 1);
@@ -132,6 +136,22 @@ public final class CameraTest {
         x.cover(170, false);
         x.cover(169, true);
         due.is("not at 169", x.sees(2, 129), 1);
+    }
+
+    /** Cover in any of the cells between hides, straight down and up, and in no other of that line. */
+    private static void everyCellBetween() {
+        for (int i = 1; i <= 19; i++) {
+            StuntSet x = new StuntSet();
+            x.camera(7, 2, 0, 19, 0, 0);
+            x.camera(380 + 7, 6, 0, 19, 0, 0);
+            x.cover(20 * i + 7, true);
+            for (int y = 1; y <= 19; y++) {
+                due.is("down to " + y + " with cover at " + i, x.sees(0, 20 * y + 7), y > i ? 0 : 1);
+            }
+            for (int y = 0; y <= 18; y++) {
+                due.is("up to " + y + " with cover at " + i, x.sees(1, 20 * y + 7), i < 19 && y < i ? 0 : 1);
+            }
+        }
     }
 
     private static void quarrels() {

@@ -148,6 +148,7 @@ public final class RunTest {
         due.is("plan 20", x.plan(0, 1, 99999), -6);
         due.is("plan 20, below", x.plan(0, 1, 0), -4);
         due.is("count(7)", x.count(7), 20);
+        due.is("none of 20 is overtaken", x.overtaken(), -9);
         due.is("room 49", x.good(9, 0), 0);
         due.is("room 50", x.good(10, 0), 1);
         due.is("room 51", x.good(11, 999), 1);
@@ -182,6 +183,19 @@ public final class RunTest {
         due.is("the run is taken back", x.overtaken(), 2);
         x.takeBack(1);
         due.is("none", x.overtaken(), -9);
+        StuntSet z = new StuntSet();
+        due.is("the greatest of all", z.plan(3, 99, 99999), 0);
+        due.is("good", z.good(0, 999), 1);
+        z.plan(3, 99, 4901);
+        z.days(1);
+        z.run(3, 99, 9999);
+        due.is("1, by a cell", z.overtaken(), 1);
+        StuntSet w = new StuntSet();
+        w.plan(0, 10, 50);
+        w.plan(0, 10, 50);
+        w.days(1);
+        w.run(0, 10, 51);
+        due.is("the first of two", w.overtaken(), 0);
         StuntSet y = new StuntSet();
         y.plan(0, 10, 50);
         y.run(0, 10, 100);

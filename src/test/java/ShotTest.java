@@ -32,6 +32,9 @@ public final class ShotTest {
         due.is("best(-1)", x.best(-1), -2);
         due.is("best(9)", x.best(9), -2);
         due.is("best(8)", x.best(8), -9);
+        due.is("best(0) without shots", x.best(0), 0);
+        due.is("best(1) without shots", x.best(1), 0);
+        due.is("best(2) without shots", x.best(2), -9);
         due.is("count(5)", x.count(5), 0);
         due.refused(x, 2, 2, 0, 6, 5);
     }
@@ -127,6 +130,9 @@ public final class ShotTest {
         due.is("999", y.best(1), 999);
         y.shot(0, 1, 0, 999, 0, 0);
         due.is("1000", y.best(1), -9);
+        StuntSet z = new StuntSet();
+        due.is("the greatest of all", z.shot(3, 300, 999, 999, 999, 99), 0);
+        due.is("it can not end in time", z.best(0), -9);
     }
 
     private static void rows() {
