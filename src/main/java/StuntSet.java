@@ -124,6 +124,7 @@ public final class StuntSet {
         if (!m.staysOnSet(direction, cells)) {
             return refuse(STATE);
         }
+        stage.forgetHits(mover);
         return m.addLeg(direction, cells, pace, rest);
     }
 
@@ -138,6 +139,7 @@ public final class StuntSet {
         if (tenth > LAST_TENTH || slip > MOST_SLIP) {
             return refuse(ROOM);
         }
+        stage.forgetHits(mover);
         return m.setCue(tenth, slip);
     }
 
@@ -156,12 +158,10 @@ public final class StuntSet {
     }
 
     public int hit(int a, int b) {
-        Mover one = stage.moverAt(a);
-        Mover other = stage.moverAt(b);
-        if (one == null || other == null || a == b) {
+        if (stage.moverAt(a) == null || stage.moverAt(b) == null || a == b) {
             return refuse(NOBODY);
         }
-        int tenth = stage.firstMeeting(one, other, LAST_TENTH + 1);
+        int tenth = stage.hitOf(Math.min(a, b), Math.max(a, b));
         return tenth > LAST_TENTH ? NONE : tenth;
     }
 
@@ -622,6 +622,8 @@ public final class StuntSet {
         int slip;
         int legCount;
         int end;
+        /** The tenth of its last step, 0 without one; it may be behind the last of all. */
+        int lastStep;
         final int[] directions = new int[MOST_LEGS];
         final int[] lengths = new int[MOST_LEGS];
         final int[] paces = new int[MOST_LEGS];
@@ -670,7 +672,7 @@ public final class StuntSet {
         }
 
         boolean moves(int tenth) {
-            return cellAt(tenth) != cellAt(tenth - 1);
+            return tenth > 0 && tenth < path.length && path[tenth] != path[tenth - 1];
         }
 
         private void walk() {
@@ -682,6 +684,7 @@ public final class StuntSet {
                     time += paces[leg];
                     filled = fillPath(filled, time, cell);
                     cell += cellStep(directions[leg]);
+                    lastStep = time;
                 }
                 time += waits[leg];
             }
@@ -704,11 +707,15 @@ public final class StuntSet {
 
     /** The set with its cover, its safe cells and its movers. */
     private static final class Stage {
+        private static final int NOT_RECKONED = -1;
+
         final int[] covered = new int[SIDE];
         final int[] havens = new int[SIDE];
         final Mover[] movers = new Mover[MOST_MOVERS];
         int moverCount;
         int strideTenths = FIRST_STRIDE;
+        /** The hit of mover a and a greater b at 12 a and b: NOT_RECKONED until it is asked for. */
+        private final int[] hits = new int[MOST_MOVERS * MOST_MOVERS];
         int hitTenth;
         int hitMover;
         int hitOther;
@@ -720,6 +727,7 @@ public final class StuntSet {
         int addMover(Mover mover) {
             movers[moverCount] = mover;
             moverCount++;
+            forgetHits(moverCount - 1);
             return moverCount - 1;
         }
 
@@ -738,29 +746,53 @@ public final class StuntSet {
 
         /** Whether the mover, with some late, is so near the cell at the tenth. */
         private boolean comesNear(Mover mover, int cell, int tenth, int near) {
+            int seen = -1;
             for (int late = 0; late <= mover.slip; late++) {
-                if (far(cell, mover.cellAt(tenth - late)) <= near) {
+                int place = mover.cellAt(tenth - late);
+                if (place != seen && far(cell, place) <= near) {
                     return true;
                 }
+                seen = place;
             }
             return false;
         }
 
+        /** The way of a mover is a new one. */
+        void forgetHits(int mover) {
+            for (int other = 0; other < MOST_MOVERS; other++) {
+                hits[MOST_MOVERS * mover + other] = NOT_RECKONED;
+                hits[MOST_MOVERS * other + mover] = NOT_RECKONED;
+            }
+        }
+
+        /** The first tenth at which two hit, above LAST_TENTH if never; it is kept, since it is dear. */
+        int hitOf(int lesser, int greater) {
+            int at = MOST_MOVERS * lesser + greater;
+            if (hits[at] == NOT_RECKONED) {
+                hits[at] = firstMeeting(movers[lesser], movers[greater]);
+            }
+            return hits[at];
+        }
+
         /**
-         * The first tenth below the limit at which two hit, else the limit. Places of both that are
-         * late were there a tenth sooner, less late: only a place that is new at a tenth is looked at.
+         * Two places that are both late were there a tenth sooner, both less late: so only a place that
+         * is new at a tenth is looked at, against all lates of the other.
          */
-        int firstMeeting(Mover a, Mover b, int limit) {
+        private int firstMeeting(Mover a, Mover b) {
             int near = a.size + b.size;
-            for (int tenth = 0; tenth < limit; tenth++) {
-                if ((tenth == 0 || a.moves(tenth)) && comesNear(b, a.cellAt(tenth), tenth, near)) {
+            if (far(a.start, b.start) <= near) {
+                return 0;
+            }
+            int last = Math.min(LAST_TENTH, Math.max(a.lastStep, b.lastStep));
+            for (int tenth = Math.min(a.cueTenth, b.cueTenth) + 1; tenth <= last; tenth++) {
+                if (a.moves(tenth) && comesNear(b, a.cellAt(tenth), tenth, near)) {
                     return tenth;
                 }
                 if (b.moves(tenth) && comesNear(a, b.cellAt(tenth), tenth, near)) {
                     return tenth;
                 }
             }
-            return limit;
+            return LAST_TENTH + 1;
         }
 
         /** Whether there is a first hit, which then stands in hitTenth, hitMover and hitOther. */
@@ -768,21 +800,15 @@ public final class StuntSet {
             hitTenth = LAST_TENTH + 1;
             for (int a = 0; a < moverCount; a++) {
                 for (int b = a + 1; b < moverCount; b++) {
-                    if (movers[a].kind == CAR || movers[b].kind == CAR) {
-                        keepSooner(a, b);
+                    boolean withCar = movers[a].kind == CAR || movers[b].kind == CAR;
+                    if (withCar && hitOf(a, b) < hitTenth) {
+                        hitTenth = hitOf(a, b);
+                        hitMover = a;
+                        hitOther = b;
                     }
                 }
             }
             return hitTenth <= LAST_TENTH;
-        }
-
-        private void keepSooner(int a, int b) {
-            int tenth = firstMeeting(movers[a], movers[b], hitTenth);
-            if (tenth < hitTenth) {
-                hitTenth = tenth;
-                hitMover = a;
-                hitOther = b;
-            }
         }
 
         boolean isDanger(int size, int cell, int tenth) {
