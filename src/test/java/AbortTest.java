@@ -221,6 +221,19 @@ public final class AbortTest {
             due.is("in danger in the corner", x.saved(1, 0), -9);
             x.safe(corners[i], true);
             due.is("nor is it safe for another", x.saved(2, 0), -9);
+            x.mover(1, 3, corners[i], 0, 0);
+            x.mover(0, 3, 210, 0, 0);
+            due.is("a great car in the corner", x.saved(4, 0), -9);
+            for (int cell = 0; cell < 400; cell++) {
+                int far = Math.max(Math.abs(cell % 20 - corners[i] % 20), Math.abs(cell / 20 - corners[i] / 20));
+                if (far == 6 || far == 7) {
+                    StuntSet one = new StuntSet();
+                    one.mover(0, 3, cell, 0, 0);
+                    one.mover(1, 3, corners[i], 0, 0);
+                    one.safe(cell, true);
+                    due.is("at " + cell + " with a great car at " + corners[i], one.abort(0), far == 6 ? 1 : 0);
+                }
+            }
             StuntSet y = new StuntSet();
             y.mover(0, 0, corners[i], 0, 0);
             y.stride(1);

@@ -44,6 +44,16 @@ public final class HitTest {
         due.is("the last tenth is a first hit", y.firstHit(0), 600);
         y.cue(0, 600, 0);
         due.is("a tenth too late", y.hit(0, 1), -9);
+        y.cue(0, 0, 0);
+        y.cue(1, 600, 0);
+        due.is("the first step of all, at 1, with one that goes much later", y.hit(0, 1), 1);
+        due.is("the other way round", y.hit(1, 0), 1);
+        y.cue(0, 50, 0);
+        due.is("asked again behind another cue", y.firstHit(0), 51);
+        y.mover(0, 0, 2, 0, 0);
+        due.is("no further yet", y.hit(0, 2), -9);
+        y.leg(0, 0, 1, 4, 0);
+        due.is("asked again behind another leg", y.hit(0, 2), 55);
     }
 
     /** The car passes a crossing that the body crosses later, unless one of them is late. */
