@@ -11,6 +11,14 @@ final class Due {
         }
     }
 
+    void same(String what, String got, String want) {
+        asked++;
+        if (!got.equals(want)) {
+            wrong++;
+            System.out.println(what + ": " + got + ", due is " + want);
+        }
+    }
+
     /** The refusals -1 .. -6 as count(11) .. count(16) tell them. */
     void refused(StuntSet x, int nobody, int other, int state, int below, int room) {
         is("count(11)", x.count(11), nobody);
