@@ -9,6 +9,7 @@ public final class AbortTest {
         runs();
         hundredTenths();
         coverOnTheWay();
+        slipOfTheBody();
         dangerOnTheWay();
         beyondTheEnd();
         edgesOfTheSet();
@@ -141,6 +142,30 @@ public final class AbortTest {
         x.safe(0, false);
         x.cover(2, false);
         due.is("and may leave it", x.saved(0, 0), 4);
+        StuntSet y = new StuntSet();
+        y.mover(0, 0, 0, 0, 0);
+        y.safe(1, true);
+        y.cover(0, true);
+        y.cover(20, true);
+        y.cover(21, true);
+        y.mover(1, 0, 1, 8, 0);
+        y.leg(1, 0, 5, 1, 0);
+        due.is("it stays under cover until the car has gone at 9", y.saved(0, 0), 12);
+        y.cover(1, true);
+        due.is("but does not go under cover", y.saved(0, 0), -9);
+    }
+
+    /** From its PLACE then (LATE 0), however great its SLIP. */
+    private static void slipOfTheBody() {
+        StuntSet x = new StuntSet();
+        x.mover(0, 0, 0, 5, 9);
+        x.leg(0, 0, 10, 1, 0);
+        x.safe(10, true);
+        due.is("at 5 in cell 0", x.saved(0, 5), 45);
+        due.is("at 6 in cell 1", x.saved(0, 6), 42);
+        due.is("at 14 in cell 9", x.saved(0, 14), 18);
+        due.is("at 15 in cell 10", x.saved(0, 15), 15);
+        due.is("nobody is lost", x.abort(15), 0);
     }
 
     private static void dangerOnTheWay() {

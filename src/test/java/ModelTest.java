@@ -1,10 +1,12 @@
 import java.util.Arrays;
 import java.util.Random;
 
-/** Random runs of 512 calls, on StuntSet and on PlainSet: every answer must be the same. */
+/** Random runs of up to 512 calls, on StuntSet and on PlainSet: every answer must be the same. */
 public final class ModelTest {
     private static final Due due = new Due();
     private static final int CALLS = 41;
+    /** Behind so many a run still has room for one step more and for all counts. */
+    private static final int LAST_STEP = Told.MOST_CALLS - 40;
     private static final int[] SET_CALLS = {0, 1, 2, 2, 3, 3, 3, 4, 5, 6, 7, 8, 9, 10, 11, 11, 12, 15, 16, 17};
     private static final int[] TEXT_CALLS = {2, 3, 12, 17, 41, 41, 41, 18, 19, 19, 20, 20, 20, 21};
     private static final int[] SHOT_CALLS = {27, 27, 28, 28, 29, 29, 29, 30, 31, 31, 31, 32, 32};
@@ -15,6 +17,7 @@ public final class ModelTest {
     private final PlainSet plain = new PlainSet();
     /** Where things happen: a small part of the set makes more of them meet. */
     private final int corner;
+    private int calls = 0;
 
     private ModelTest(long seed) {
         random = new Random(seed);
@@ -33,13 +36,14 @@ public final class ModelTest {
     private void run(String name, int kind) {
         int[][] kinds = {null, SET_CALLS, TEXT_CALLS, SHOT_CALLS, RUN_CALLS};
         int[] some = kinds[kind];
-        for (int i = 0; i < 480; i++) {
+        while (calls <= LAST_STEP) {
             int op = some == null || random.nextInt(20) == 0 ? random.nextInt(CALLS) : some[random.nextInt(some.length)];
-            call(name + ", call " + i, op);
+            call(name + ", call " + calls, op);
         }
         for (int what = 0; what <= 17; what++) {
-            due.is(name + ": count(" + what + ")", real.count(what), plain.count(what));
+            same(name, "count", real.count(what), plain.count(what), what);
         }
+        due.is(name + " used " + calls + " calls", Math.max(calls, Told.MOST_CALLS), Told.MOST_CALLS);
     }
 
     /** A number from the least to the greatest, now and then one off them or far off. */
@@ -70,6 +74,7 @@ public final class ModelTest {
     }
 
     private void same(String name, String call, int got, int want, int... args) {
+        calls++;
         due.is(name + ": " + call + Arrays.toString(args), got, want);
     }
 
@@ -178,10 +183,7 @@ public final class ModelTest {
         }
         for (int i = 0; i < made.length(); i += 8) {
             int n = Math.min(8, made.length() - i);
-            long bytes = 0;
-            for (int j = n - 1; j >= 0; j--) {
-                bytes = bytes << 8 | made.charAt(i + j);
-            }
+            long bytes = Told.bytesOf(made.substring(i, i + n));
             same(name, "feed", real.feed(n, bytes), plain.feed(n, bytes), n);
         }
         int call = near(0, 5);

@@ -16,6 +16,7 @@ public final class MoverTest {
         due.end("MoverTest");
     }
 
+    /** COUNT 0; nothing is told: what every question is answered that can be asked then. */
     private static void newObject() {
         StuntSet x = new StuntSet();
         for (int what = 0; what <= 17; what++) {
@@ -24,21 +25,52 @@ public final class MoverTest {
         due.is("cover(0, false)", x.cover(0, false), 0);
         due.is("safe(399, false)", x.safe(399, false), 0);
         due.is("stride(4)", x.stride(4), 4);
-        due.is("firstHit(0)", x.firstHit(0), -9);
         due.is("abort(0)", x.abort(0), 0);
-        due.is("quarrels(0)", x.quarrels(0), 0);
-        due.is("lets(0)", x.lets(0), 0);
-        for (int call = 1; call <= 5; call++) {
-            due.is("lets(" + call + ")", x.lets(call), 1);
-        }
+        due.is("abort(600)", x.abort(600), 0);
         for (int what = 0; what <= 2; what++) {
+            due.is("firstHit(" + what + ")", x.firstHit(what), -9);
+            due.is("quarrels(" + what + ")", x.quarrels(what), what == 0 ? 0 : -9);
             due.is("tell(" + what + ", 0)", x.tell(what, 0), 0);
+        }
+        due.is("text(0) of an empty tape", x.text(0), -20);
+        for (int call = 0; call <= 5; call++) {
+            due.is("lets(" + call + ")", x.lets(call), call == 0 ? 0 : 1);
+        }
+        for (int what = 0; what <= 8; what++) {
+            due.is("best(" + what + ") of no shots", x.best(what), what < 2 ? 0 : -9);
+        }
+        due.is("judge() of no bytes and no shots", x.judge(), -9);
+        for (int star = 0; star <= 3; star++) {
+            due.is("matched(" + star + ")", x.matched(star), -9);
         }
         for (int who = 0; who <= 7; who++) {
             due.is("marks(" + who + ", -1)", x.marks(who, -1), -1);
         }
+        for (int ground = 0; ground <= 3; ground++) {
+            due.is("grip(" + ground + ", 0)", x.grip(ground, 0), 20);
+            due.is("grip(" + ground + ", 999)", x.grip(ground, 999), 20);
+        }
+        due.is("stop(0, 1, 0)", x.stop(0, 1, 0), 1);
         due.is("overtaken()", x.overtaken(), -9);
-        due.is("grip(3, 999)", x.grip(3, 999), 20);
+        due.refused(x, 0, 0, 0, 0, 0);
+        nobodyYet(x);
+    }
+
+    private static void nobodyYet(StuntSet x) {
+        due.is("leg", x.leg(0, 0, 1, 1, 0), -1);
+        due.is("cue", x.cue(0, 0, 0), -1);
+        due.is("place", x.place(0, 0, 0), -1);
+        due.is("hit", x.hit(0, 1), -1);
+        due.is("danger", x.danger(0, 0, 0), -1);
+        due.is("saved", x.saved(0, 0), -1);
+        due.is("sees", x.sees(0, 0), -1);
+        due.is("picture", x.picture(0, 0), -1);
+        due.is("take", x.take(), -3);
+        due.is("lands", x.lands(0, 1), -1);
+        due.is("speeds", x.speeds(0, 0), -1);
+        due.is("takeBack", x.takeBack(0), -1);
+        due.is("good", x.good(0, 0), -1);
+        due.refused(x, 12, 0, 1, 0, 0);
     }
 
     private static void cells() {

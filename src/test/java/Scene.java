@@ -143,11 +143,12 @@ enum Scene {
         x.call("marks", 7, 99999);
         x.call("run", 0, 10, 40);
         x.call("plan", 0, 10, 45);
-        x.call("days", 5);
         x.call("run", 1, 20, 100);
-        x.call("plan", 1, 20, 100);
         x.call("run", 0, 10, 300);
+        x.call("days", 3);
         x.call("takeBack", 2);
+        x.call("days", 2);
+        x.call("plan", 1, 20, 100);
     }
 
     private static void makeFull(Told x) {
@@ -261,6 +262,7 @@ enum Scene {
     private void askOfRuns(List<String> all, Told x) {
         for (int ground = 0; ground <= 3; ground++) {
             ask(all, x, "grip", ground, 0);
+            ask(all, x, "grip", ground, Math.max(0, day() - 1));
             ask(all, x, "grip", ground, day());
         }
         ask(all, x, "stop", 0, 30, day());

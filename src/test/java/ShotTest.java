@@ -93,6 +93,12 @@ public final class ShotTest {
         due.is("0 ahead of 1: 11", z.best(0), 11);
         due.is("and later", z.best(1), 100);
         due.is("best(2)", z.best(2), 0);
+        StuntSet w = new StuntSet();
+        w.shot(0, 40, 0, 999, 5, 0);
+        w.shot(1, 10, 50, 999, 5, 0);
+        due.is("0 ahead of 1 ends at 60, and the later order at 100", w.best(1), 60);
+        due.is("best(2)", w.best(2), 0);
+        due.is("best(3)", w.best(3), 1);
     }
 
     private static void firstByNumbers() {

@@ -19,11 +19,7 @@ public final class TextTest {
     private static void feed(StuntSet x, String text) {
         for (int i = 0; i < text.length(); i += 8) {
             int n = Math.min(8, text.length() - i);
-            long bytes = 0;
-            for (int j = n - 1; j >= 0; j--) {
-                bytes = bytes << 8 | text.charAt(i + j) & 255;
-            }
-            x.feed(n, bytes);
+            x.feed(n, Told.bytesOf(text.substring(i, i + n)));
         }
     }
 
