@@ -287,6 +287,14 @@ public final class AbortTest {
         z.safe(350, true);
         z.cover(370, false);
         due.is("up from the last row", z.saved(0, 0), 2);
+        StuntSet w = new StuntSet();
+        w.mover(0, 0, 200, 0, 0);
+        w.stride(1);
+        w.safe(0, true);
+        for (int y = 0; y < 20; y++) {
+            w.cover(20 * y + 1, true);
+        }
+        due.is("along the first column alone", w.saved(0, 0), 10);
     }
 
     /** The only way out is a cell in which a car stands until it goes. */

@@ -378,7 +378,8 @@ public final class TermsTest {
             due.is("text " + text, x.call("text", 0), 1);
             due.is("lets " + text, x.call("lets", 0), 1);
         }
-        String[] notLet = {"9999<9999", "9999>9999", "0=1", "0>0", "0<0", "9998=9999"};
+        String[] notLet = {"9999<9999", "9999>9999", "0=1", "1=0", "0>0", "0<0", "1<0", "0>1", "9999<0", "0>9999",
+            "9998=9999"};
         for (String text : notLet) {
             Told x = new Told().feed(text);
             due.is("text " + text, x.call("text", 0), 1);

@@ -144,10 +144,12 @@ public final class TextTest {
         StuntSet x = new StuntSet();
         lets(x, "1<2", 1);
         lets(x, "2<2", 0);
+        lets(x, "3<2", 0);
         lets(x, "2=2", 1);
         lets(x, "2=3", 0);
         lets(x, "3>2", 1);
         lets(x, "2>2", 0);
+        lets(x, "2>3", 0);
         lets(x, "0002=2", 1);
         lets(x, "9999>9998", 1);
         lets(x, "1=1|1=1&1=2", 1);
